@@ -13,6 +13,7 @@ public final class CoverTest {
         usedAndSpare();
         wrongNumbers();
         retiredAndLateInstalls();
+        lastNumbers();
         checks.end();
     }
 
@@ -178,5 +179,27 @@ public final class CoverTest {
         checks.due("covered()", desk.covered(), 1);
         checks.due("used(0)", desk.used(0), 1);
         checks.due("coverage()", desk.coverage(), 1.0f);
+    }
+
+    private static void lastNumbers() {
+        Entitled desk = new Entitled();
+        for (int e = 0; e < 3; e++) {
+            desk.entitle(8, 5, 2, 'd', 9, -1);
+        }
+        desk.entitle(3, 5, 2, 'd', 1, -1);
+        desk.entitle(1, 5, 2, 'd', 1, -1);
+        for (int i = 0; i < 12; i++) {
+            desk.install(i == 11 ? 1 : 0, 5, 2, i % 2, 0, 1, 0);
+            if (i < 10) {
+                desk.retire(i);
+            }
+        }
+        checks.due("covered()", desk.covered(), 2);
+        checks.due("coveredByTrying()", desk.coveredByTrying(), 2);
+        checks.due("entitlementOf(10)", desk.entitlementOf(10), 4);
+        checks.due("entitlementOf(11)", desk.entitlementOf(11), 3);
+        checks.due("used(3)", desk.used(3), 1);
+        checks.due("used(4)", desk.used(4), 1);
+        checks.due("spare(4)", desk.spare(4), 0);
     }
 }

@@ -112,10 +112,16 @@ public final class InstallsTest {
         desk.install(2, 5, 2, 9, 0, 8, 1);
         checks.due("another product on the device", desk.unitsForAll(0), 2);
         checks.due("another product of the user", desk.unitsForAll(1), 2);
+        desk.retire(2);
+        desk.entitle(15, 5, 2, 'u', 9, -1);
+        desk.setRights(3, false, false, true);
+        checks.due("a second use of one user", desk.unitsForAll(3), 1);
+        desk.moveTo(0, 9, 1);
+        checks.due("two users", desk.unitsForAll(3), 2);
         for (int[] bad : new int[][] {{-1, 0}, {10, 0}, {0, -1}, {0, 10}, {Integer.MAX_VALUE, Integer.MIN_VALUE}}) {
             checks.thrownAndUnchanged("moveTo " + bad[0] + ", " + bad[1], Checks.RANGE, desk,
                     () -> desk.moveTo(0, bad[0], bad[1]));
-            checks.due("the device stays", desk.moveTo(0, 9, 0), 9);
+            checks.due("the device stays", desk.moveTo(0, 9, 1), 9);
         }
         for (int bad : BAD_INDEXES) {
             checks.thrownAndUnchanged("moveTo of " + bad, Checks.INDEX, desk, () -> desk.moveTo(bad, 10, 10));
@@ -133,7 +139,8 @@ public final class InstallsTest {
         checks.due("setVersion to the greatest", desk.setVersion(0, 9, 3), 1);
         checks.due("the edition is set", desk.why(0, 0), 'e');
         checks.due("setVersion to the least", desk.setVersion(0, 1, 1), 9);
-        for (int[] bad : new int[][] {{0, 1}, {10, 1}, {1, 0}, {1, 4}, {Integer.MIN_VALUE, 1}, {1, Integer.MAX_VALUE}}) {
+        int[][] badOnes = {{0, 1}, {10, 1}, {1, 0}, {1, 4}, {Integer.MIN_VALUE, 1}, {1, Integer.MAX_VALUE}};
+        for (int[] bad : badOnes) {
             checks.thrownAndUnchanged("setVersion " + bad[0] + ", " + bad[1], Checks.RANGE, desk,
                     () -> desk.setVersion(0, bad[0], bad[1]));
             checks.due("the version stays", desk.setVersion(0, 1, 1), 1);

@@ -9,6 +9,7 @@ public final class PurchaseTest {
         freeAtAnotherOne();
         noneFits();
         trying();
+        lastNumbers();
         wrongNumbers();
         trueUp();
         trueUpBeyondLimits();
@@ -113,6 +114,25 @@ public final class PurchaseTest {
         desk.install(0, 5, 2, 4, 0, 1, 0);
         checks.thrownAndUnchanged("purchaseByTrying with 5", Checks.UNSUPPORTED, desk, desk::purchaseByTrying);
         checks.due("purchase with 5", desk.purchase(), 40);
+    }
+
+    private static void lastNumbers() {
+        Entitled desk = new Entitled();
+        for (int e = 0; e < 5; e++) {
+            desk.entitle(e < 4 ? 14 : 15, 5, 2, 'd', 0, -1);
+        }
+        for (int i = 0; i < 12; i++) {
+            desk.install(0, 5, 2, i % 2, 0, 1, 0);
+            if (i < 10) {
+                desk.retire(i);
+            }
+        }
+        checks.due("toBuy(4) as the first question", desk.toBuy(4), 2);
+        checks.due("toBuy(3)", desk.toBuy(3), 0);
+        desk.retire(10);
+        checks.due("toBuy(4) of the last install", desk.toBuy(4), 1);
+        checks.due("trueUp()", desk.trueUp(), 10);
+        checks.due("units(4)", desk.units(4), 1);
     }
 
     private static void wrongNumbers() {

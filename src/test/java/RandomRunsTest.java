@@ -1,31 +1,36 @@
 import java.lang.reflect.InvocationTargetException;
 import java.lang.reflect.Method;
+import java.lang.reflect.Modifier;
 import java.util.Arrays;
 
 /** Long runs of drawn calls, each answered by the program and by the model; the draws are the same each time. */
 public final class RandomRunsTest {
-    private static final int CALLS = 512;
-    private static final int RUNS = 150;
+    private static final int RUNS = 600;
+    private static final int CALLS = 120;
+    private static final int ALL_CALLS = 512;
 
     private static final Checks checks = new Checks();
     private static long seed = 20261119;
 
+    // Narrow runs put all on few devices, users and values, so that installs meet and prices are equal.
+    private static boolean narrow;
+    // In open runs nearly every entitlement fits every install, so that there is much to choose from.
+    private static boolean open;
+    // Small runs keep to installs so few that all assignments may be tried.
+    private static boolean small;
+
     public static void main(String[] args) throws Exception {
         Method[] calls = callsOf();
         for (int run = 0; run < RUNS; run++) {
+            narrow = run % 2 == 0;
+            open = run % 3 != 0;
+            small = run % 5 < 2;
             Entitled desk = new Entitled();
             Model model = new Model();
-            // Narrow runs put all on few devices, users and values, so that installs meet and prices are equal.
-            boolean narrow = run % 2 == 0;
-            for (int i = 0; i < CALLS; i++) {
-                Method call = calls[draw(calls.length)];
-                // Few installs and entitlements are ever made: most drawn early calls make some.
-                if (i < 24 && draw(3) > 0) {
-                    call = named(calls, draw(2) == 0 ? "install" : "entitle");
-                } else if ((call.getName().equals("retire") || call.getName().equals("trueUp")) && draw(5) > 0) {
-                    call = named(calls, "covered");
-                }
-                Object[] values = valuesFor(call.getName(), narrow);
+            int length = run % 50 == 0 ? ALL_CALLS : CALLS;
+            for (int i = 0; i < length; i++) {
+                Method call = drawnCall(calls, i, model.installs());
+                Object[] values = valuesFor(call.getName());
                 Method twin = Model.class.getMethod(call.getName(), call.getParameterTypes());
                 checks.due("run " + run + ", call " + i + ": " + call.getName() + Arrays.toString(values),
                         answer(call, desk, values), answer(twin, model, values));
@@ -34,9 +39,27 @@ public final class RandomRunsTest {
         checks.end();
     }
 
+    /** Early calls mostly make installs and entitlements; calls that use them up are drawn less often than others. */
+    private static Method drawnCall(Method[] calls, int at, int installsThere) {
+        Method call = calls[draw(calls.length)];
+        if (at < 24 && draw(3) > 0) {
+            call = named(calls, draw(2) == 0 ? "install" : "entitle");
+        }
+        switch (call.getName()) {
+            case "install":
+                return small && installsThere >= 4 ? named(calls, "purchaseByTrying") : call;
+            case "retire": case "trueUp":
+                return draw(6) > 0 ? named(calls, "covered") : call;
+            case "addUnits":
+                return draw(6) > 0 ? named(calls, "toBuy") : call;
+            default:
+                return call;
+        }
+    }
+
     private static Method[] callsOf() {
         return Arrays.stream(Entitled.class.getDeclaredMethods())
-                .filter(method -> java.lang.reflect.Modifier.isPublic(method.getModifiers()))
+                .filter(method -> Modifier.isPublic(method.getModifiers()))
                 .sorted((one, other) -> one.getName().compareTo(other.getName()))
                 .toArray(Method[]::new);
     }
@@ -69,25 +92,26 @@ public final class RandomRunsTest {
         return odd == 0 ? low - 1 : odd == 1 ? high + 1 : low + draw(high - low + 1);
     }
 
-    private static Object[] valuesFor(String name, boolean narrow) {
+    private static Object[] valuesFor(String name) {
         int wide = narrow ? 1 : 9;
         switch (name) {
             case "install":
-                return new Object[] {from(0, narrow ? 1 : 3), version(narrow), edition(narrow), from(0, wide),
+                return new Object[] {from(0, narrow ? 1 : 3), version(), edition(), from(0, wide),
                     from(0, wide), from(1, narrow ? 4 : 16), from(0, narrow ? 1 : 2)};
             case "entitle":
                 char metric = "duce".charAt(draw(30) == 0 ? 3 : draw(3));
-                int products = draw(2) == 0 ? 15 : from(1, 15);
-                return new Object[] {products, version(narrow), edition(narrow), metric,
-                    draw(10) == 0 ? from(0, 99) : from(0, metric == 'c' ? 9 : 3), draw(2) == 0 ? -1 : from(-1, 2)};
+                int products = open || draw(2) == 0 ? 15 : from(1, 15);
+                return new Object[] {products, version(), edition(), metric,
+                    draw(10) == 0 ? from(0, 99) : from(0, metric == 'c' ? 9 : 3),
+                    open || draw(2) == 0 ? -1 : from(-1, 2)};
             case "moveTo":
                 return new Object[] {install(), from(0, wide), from(0, wide)};
             case "setVersion":
-                return new Object[] {install(), version(narrow), edition(narrow)};
+                return new Object[] {install(), version(), edition()};
             case "setPool":
                 return new Object[] {install(), from(0, narrow ? 1 : 2)};
             case "setRights":
-                return new Object[] {entitlement(), draw(4) > 0, draw(4) > 0, draw(2) == 0};
+                return new Object[] {entitlement(), right(), right(), draw(2) == 0};
             case "setMinimum":
                 return new Object[] {entitlement(), from(1, draw(3) == 0 ? 16 : 4)};
             case "setPrice":
@@ -105,12 +129,16 @@ public final class RandomRunsTest {
         }
     }
 
-    private static int version(boolean narrow) {
-        return narrow ? from(4, 5) : draw(2) == 0 ? 5 : from(1, 9);
+    private static int version() {
+        return narrow || open ? from(4, 5) : draw(2) == 0 ? 5 : from(1, 9);
     }
 
-    private static int edition(boolean narrow) {
-        return narrow ? 2 : from(1, 3);
+    private static int edition() {
+        return narrow || open ? 2 : from(1, 3);
+    }
+
+    private static boolean right() {
+        return draw(open ? 20 : 4) > 0;
     }
 
     private static int install() {
