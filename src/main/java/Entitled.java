@@ -649,7 +649,10 @@ public final class Entitled {
         private int unitsOfHolder(int holder) {
             int most = 0;
             for (int product = 0; product < PRODUCTS; product++) {
-                most = Math.max(most, served[holder * PRODUCTS + product]);
+                int ofProduct = served[holder * PRODUCTS + product];
+                if (ofProduct > most) {
+                    most = ofProduct;
+                }
             }
             return metric == BY_USER && second ? (most + 1) / 2 : most;
         }

@@ -1,177 +1,205 @@
+import java.io.IOException;
+
 /** Promises 15 to 18: which entitlements fit an install, and what they need for all that they fit. */
 public final class FittingTest {
     private static final Checks checks = new Checks();
 
-    public static void main(String[] args) {
-        products();
-        pools();
-        editionsAndVersions();
-        orderOfReasons();
-        wrongNumbers();
-        fittingAndFirst();
-        unitsForDevices();
-        unitsForUsers();
-        unitsForCores();
-        unitsForTheFittingAlone();
+    public static void main(String[] args) throws IOException {
+        Sentences document = new Sentences(checks);
+        why(document);
+        fitting(document);
+        firstFitting(document);
+        unitsForAll(document);
+        document.end();
         checks.end();
     }
 
-    private static void products() {
-        for (int set = 1; set <= 15; set++) {
+    // ---- why ----
+
+    private static void why(Sentences document) {
+        document.section("Promise 15: why");
+        document.test("Returns the first reason for which an entitlement does not fit an install.",
+                FittingTest::firstReason);
+        document.test("Returns 'p', 'o', 'e' or 'v', or '-' if it fits.", FittingTest::eachReasonAlone);
+        document.test("Throws `IndexOutOfBoundsException` if there is no such install", FittingTest::whyOfNoInstall);
+        document.test("or entitlement", FittingTest::whyOfNoEntitlement);
+        document.test("or the install is retired",
+                () -> checks.refusedOfRetired("why", (desk, number) -> desk.why(number, 0)));
+    }
+
+    /** All sets of reasons; the install has 9 and 3, so that a lower entitlement is too low without a right to go up. */
+    private static void firstReason() {
+        for (int reasons = 0; reasons < 16; reasons++) {
+            boolean p = reasons % 2 == 1;
+            boolean o = reasons / 2 % 2 == 1;
+            boolean e = reasons / 4 % 2 == 1;
+            boolean v = reasons / 8 == 1;
             Entitled desk = new Entitled();
-            desk.entitle(set, 5, 2, 'd', 1, -1);
-            for (int product = 0; product < 4; product++) {
-                desk.install(product, 5, 2, 0, 0, 1, 0);
-                boolean in = set / (1 << product) % 2 == 1;
-                checks.due("product " + product + " in " + set, desk.why(product, 0), in ? '-' : 'p');
-            }
+            desk.entitle(p ? 2 : 1, v ? 5 : 9, e ? 2 : 3, 'd', 1, o ? 1 : 0);
+            desk.install(0, 9, 3, 0, 0, 1, 0);
+            char due = p ? 'p' : o ? 'o' : e ? 'e' : v ? 'v' : '-';
+            checks.due("the first of the reasons " + reasons, desk.why(0, 0), due);
+            desk.setRights(0, true, false, true);
+            checks.due("it is the same with the right to go down, of " + reasons, desk.why(0, 0), due);
         }
     }
 
-    private static void pools() {
-        for (int its = -1; its <= 2; its++) {
-            Entitled desk = new Entitled();
-            desk.entitle(1, 5, 2, 'd', 1, its);
-            for (int pool = 0; pool < 3; pool++) {
-                desk.install(0, 5, 2, 0, 0, 1, pool);
-                boolean in = its == -1 || its == pool;
-                checks.due("pool " + pool + " for " + its, desk.why(pool, 0), in ? '-' : 'o');
-            }
-        }
-    }
-
-    private static void editionsAndVersions() {
-        // Rights: none, down, up, both. The edition is looked at before the version; up never helps an edition.
-        String[] lowerEdition = {"eee", "--v", "eee", "---"};
-        String[] sameEdition = {"v-v", "--v", "v--", "---"};
-        String[] greaterEdition = {"eee", "eee", "eee", "eee"};
-        String[][] due = {lowerEdition, sameEdition, greaterEdition};
-        for (int rights = 0; rights < 4; rights++) {
-            for (int edition = 1; edition <= 3; edition++) {
-                for (int version = 4; version <= 6; version++) {
-                    Entitled desk = new Entitled();
-                    desk.entitle(1, 5, 2, 'd', 1, -1);
-                    desk.setRights(0, rights % 2 == 1, rights / 2 == 1, true);
-                    desk.install(0, version, edition, 0, 0, 1, 0);
-                    checks.due("edition " + edition + ", version " + version + ", rights " + rights,
-                            desk.why(0, 0), due[edition - 1][rights].charAt(version - 4));
-                }
-            }
-        }
-    }
-
-    private static void orderOfReasons() {
-        Entitled desk = new Entitled();
-        desk.entitle(2, 5, 2, 'd', 1, 1);
-        desk.entitle(1, 5, 2, 'd', 1, 1);
-        desk.entitle(1, 5, 2, 'd', 1, 0);
-        desk.entitle(1, 5, 3, 'd', 1, 0);
-        desk.entitle(1, 9, 3, 'd', 1, 0);
-        desk.install(0, 9, 3, 0, 0, 1, 0);
-        checks.due("all four", desk.why(0, 0), 'p');
-        checks.due("all but the product", desk.why(0, 1), 'o');
-        checks.due("edition and version", desk.why(0, 2), 'e');
-        checks.due("the version alone", desk.why(0, 3), 'v');
-        checks.due("none", desk.why(0, 4), '-');
-    }
-
-    private static void wrongNumbers() {
-        Entitled desk = new Entitled();
-        desk.entitle(1, 5, 2, 'd', 1, -1);
-        desk.install(0, 5, 2, 0, 0, 1, 0);
-        desk.install(0, 5, 2, 0, 0, 1, 0);
-        desk.retire(1);
-        for (int bad : new int[] {-1, 1, 2, 11, 12, Integer.MIN_VALUE, Integer.MAX_VALUE}) {
-            checks.thrownAndUnchanged("why(" + bad + ", 0)", Checks.INDEX, desk, () -> desk.why(bad, 0));
-            checks.thrown("fitting(" + bad + ")", Checks.INDEX, () -> desk.fitting(bad));
-            checks.thrown("firstFitting(" + bad + ")", Checks.INDEX, () -> desk.firstFitting(bad));
-        }
-        for (int bad : new int[] {-1, 1, 4, 5, Integer.MIN_VALUE, Integer.MAX_VALUE}) {
-            checks.thrownAndUnchanged("why(0, " + bad + ")", Checks.INDEX, desk, () -> desk.why(0, bad));
-            checks.thrown("unitsForAll(" + bad + ")", Checks.INDEX, () -> desk.unitsForAll(bad));
-        }
-    }
-
-    private static void fittingAndFirst() {
+    private static void eachReasonAlone() {
         Entitled desk = new Entitled();
         desk.install(0, 5, 2, 0, 0, 1, 0);
-        desk.install(1, 5, 2, 0, 0, 1, 0);
-        checks.due("fitting without entitlements", desk.fitting(0), 0);
-        checks.thrown("firstFitting without entitlements", Checks.NONE, () -> desk.firstFitting(0));
-        desk.entitle(1, 5, 1, 'd', 0, -1);
-        checks.thrownAndUnchanged("firstFitting with none that fits", Checks.NONE, desk, () -> desk.firstFitting(0));
-        desk.entitle(3, 5, 2, 'u', 0, -1);
-        desk.entitle(1, 5, 2, 'c', 0, -1);
-        desk.entitle(1, 5, 2, 'd', 0, 1);
-        desk.entitle(3, 5, 2, 'd', 0, 0);
+        desk.entitle(14, 5, 2, 'd', 1, 0);
+        desk.entitle(1, 5, 2, 'u', 1, 1);
+        desk.entitle(1, 5, 1, 'c', 1, 0);
+        desk.entitle(1, 4, 2, 'd', 1, 0);
+        desk.entitle(1, 5, 2, 'u', 0, 0);
+        char[] due = {'p', 'o', 'e', 'v', '-'};
+        for (int e = 0; e < 5; e++) {
+            checks.due("why(0, " + e + ")", desk.why(0, e), due[e]);
+        }
+        desk.setRights(3, false, true, false);
+        checks.due("with the right to go up", desk.why(0, 3), '-');
+        desk.setVersion(0, 3, 1);
+        checks.due("an edition that fits, a lower version", desk.why(0, 2), 'v');
+        checks.due("a lower edition", desk.why(0, 3), 'e');
+        desk.setRights(3, true, false, false);
+        checks.due("with the right to go down", desk.why(0, 3), '-');
+    }
+
+    private static void whyOfNoInstall() {
+        checks.refusedOfNoInstall("why", (desk, number) -> desk.why(number, 0));
+        checks.refusedOfNoInstall("why, with no such entitlement", (desk, number) -> desk.why(number, 5));
+    }
+
+    private static void whyOfNoEntitlement() {
+        checks.refusedOfNoEntitlement("why of the first", (desk, e) -> desk.why(desk.isThere(0) ? 0 : 6, e));
+    }
+
+    // ---- fitting ----
+
+    private static void fitting(Sentences document) {
+        document.section("Promise 16: fitting");
+        document.test("Returns the number of entitlements that fit an install.", FittingTest::thoseThatFit);
+        document.test("Returns the number of entitlements.", FittingTest::noneToAllFit);
+        document.test("Throws `IndexOutOfBoundsException` if there is no such install",
+                () -> checks.refusedOfNoInstall("fitting", Entitled::fitting));
+        document.test("or it is retired", () -> checks.refusedOfRetired("fitting", Entitled::fitting));
+    }
+
+    private static void thoseThatFit() {
+        Entitled desk = Desks.some();
         checks.due("fitting(0)", desk.fitting(0), 3);
-        checks.due("fitting(1)", desk.fitting(1), 2);
-        checks.due("firstFitting(0)", desk.firstFitting(0), 1);
+        checks.due("fitting(2)", desk.fitting(2), 1);
+        checks.due("fitting(3)", desk.fitting(3), 1);
+        desk.setPool(2, 0);
+        checks.due("fitting(2) in another pool", desk.fitting(2), 2);
         desk.setRights(0, true, false, false);
-        checks.due("firstFitting(0), the edition of 0 is still lower", desk.firstFitting(0), 1);
+        checks.due("fitting(3) with a right to go down", desk.fitting(3), 2);
+    }
+
+    private static void noneToAllFit() {
+        Entitled desk = new Entitled();
+        Desks.put(desk, 0, 0, 0);
+        Desks.put(desk, 1, 0, 0);
+        checks.due("without entitlements", desk.fitting(0), 0);
+        for (int e = 0; e < 5; e++) {
+            Desks.add(desk, 1, 'd', 0);
+            checks.due("all of " + (e + 1), desk.fitting(0), e + 1);
+            checks.due("none of " + (e + 1), desk.fitting(1), 0);
+        }
+    }
+
+    // ---- firstFitting ----
+
+    private static void firstFitting(Sentences document) {
+        document.section("Promise 17: firstFitting");
+        document.test("Returns the entitlement with the lowest number that fits an install.", FittingTest::lowestNumber);
+        document.test("Returns the number of the entitlement.", FittingTest::firstAndLastNumber);
+        document.test("Throws `IndexOutOfBoundsException` if there is no such install",
+                () -> checks.refusedOfNoInstall("firstFitting", Entitled::firstFitting));
+        document.test("or it is retired", () -> checks.refusedOfRetired("firstFitting", Entitled::firstFitting));
+        document.test("Throws `NoSuchElementException` if there is none", FittingTest::noneFits);
+    }
+
+    private static void lowestNumber() {
+        Entitled desk = new Entitled();
+        Desks.put(desk, 0, 0, 0);
+        desk.entitle(1, 5, 1, 'd', 9, -1);
+        Desks.add(desk, 3, 'u', 0);
+        Desks.add(desk, 1, 'c', 9);
+        Desks.add(desk, 1, 'd', 9);
+        checks.due("the first of three, without units", desk.firstFitting(0), 1);
+        desk.setRights(0, true, true, true);
+        checks.due("an edition that is too low", desk.firstFitting(0), 1);
         desk.setVersion(0, 5, 1);
-        checks.due("firstFitting(0) then", desk.firstFitting(0), 0);
-        checks.due("fitting(0) then", desk.fitting(0), 1);
+        checks.due("an edition that fits", desk.firstFitting(0), 0);
     }
 
-    private static void unitsForDevices() {
-        Entitled desk = new Entitled();
-        desk.entitle(15, 5, 2, 'd', 0, -1);
-        checks.due("no installs", desk.unitsForAll(0), 0);
-        desk.install(0, 5, 2, 0, 0, 16, 0);
-        desk.install(1, 5, 2, 0, 1, 16, 0);
-        desk.install(3, 5, 2, 0, 2, 16, 0);
-        checks.due("a bundle on one device", desk.unitsForAll(0), 1);
-        desk.install(3, 5, 2, 0, 3, 16, 0);
-        checks.due("one product twice on the device", desk.unitsForAll(0), 2);
-        desk.install(3, 5, 2, 9, 0, 16, 0);
-        checks.due("another device", desk.unitsForAll(0), 3);
-        desk.setRights(0, false, false, true);
-        checks.due("second use is for users alone", desk.unitsForAll(0), 3);
-        desk.retire(2);
-        checks.due("a retired one needs nothing", desk.unitsForAll(0), 2);
-    }
-
-    private static void unitsForUsers() {
-        Entitled desk = new Entitled();
-        desk.entitle(15, 5, 2, 'u', 0, -1);
-        desk.entitle(15, 5, 2, 'u', 0, -1);
-        desk.setRights(1, false, false, true);
-        int[] product = {0, 0, 0, 1, 0, 0};
-        int[] user = {9, 9, 9, 9, 9, 0};
-        int[] without = {1, 2, 3, 3, 4, 5};
-        int[] with = {1, 1, 2, 2, 2, 3};
-        for (int i = 0; i < 6; i++) {
-            desk.install(product[i], 5, 2, i, user[i], 16, 0);
-            checks.due("without second use, " + (i + 1) + " installs", desk.unitsForAll(0), without[i]);
-            checks.due("with second use, " + (i + 1) + " installs", desk.unitsForAll(1), with[i]);
+    private static void firstAndLastNumber() {
+        for (int its = 0; its < 5; its++) {
+            Entitled desk = new Entitled();
+            Desks.put(desk, 0, 0, 0);
+            for (int e = 0; e < 5; e++) {
+                Desks.add(desk, e < its ? 14 : 15, 'd', 0);
+            }
+            checks.due("the first that fits is " + its, desk.firstFitting(0), its);
         }
     }
 
-    private static void unitsForCores() {
-        Entitled desk = new Entitled();
-        desk.entitle(15, 5, 2, 'c', 0, -1);
-        desk.setRights(0, false, false, true);
-        for (int i = 0; i < 6; i++) {
-            desk.install(0, 5, 2, 0, 0, 16, 0);
-        }
-        checks.due("the greatest sum", desk.unitsForAll(0), 96);
-        desk.retire(5);
-        desk.install(0, 5, 2, 0, 0, 1, 0);
-        checks.due("one core", desk.unitsForAll(0), 81);
-        desk.setMinimum(0, 3);
-        checks.due("at least three for each", desk.unitsForAll(0), 83);
+    private static void noneFits() {
+        checks.refused("firstFitting without entitlements", Checks.NONE, FittingTest::noEntitlements,
+                desk -> desk.firstFitting(0));
+        checks.refused("firstFitting with entitlements for others", Checks.NONE, Desks::misfit,
+                desk -> desk.firstFitting(1));
     }
 
-    private static void unitsForTheFittingAlone() {
+    private static Entitled noEntitlements() {
+        Entitled desk = new Entitled();
+        Desks.put(desk, 0, 0, 0);
+        return desk;
+    }
+
+    // ---- unitsForAll ----
+
+    private static void unitsForAll(Sentences document) {
+        document.section("Promise 18: unitsForAll");
+        document.test("Returns how many units an entitlement would need if all installs that it fits had it.",
+                FittingTest::unitsForThoseThatItFits);
+        document.test("Returns the number of units.", FittingTest::leastAndMostUnits);
+        document.test("Throws `IndexOutOfBoundsException` if there is no such entitlement",
+                () -> checks.refusedOfNoEntitlement("unitsForAll", Entitled::unitsForAll));
+    }
+
+    private static void unitsForThoseThatItFits() {
         Entitled desk = new Entitled();
         desk.entitle(1, 5, 2, 'd', 0, 0);
-        desk.install(0, 5, 2, 0, 0, 1, 0);
-        desk.install(1, 5, 2, 1, 1, 1, 0);
+        Desks.put(desk, 0, 0, 0);
+        Desks.put(desk, 1, 1, 1);
         desk.install(0, 5, 2, 2, 2, 1, 1);
         desk.install(0, 5, 3, 3, 3, 1, 0);
         desk.install(0, 4, 2, 4, 4, 1, 0);
-        checks.due("the one that it fits", desk.unitsForAll(0), 1);
-        checks.due("a second time", desk.unitsForAll(0), 1);
+        Desks.put(desk, 0, 5, 5);
+        checks.due("the two that it fits", desk.unitsForAll(0), 2);
+        checks.due("a second time", desk.unitsForAll(0), 2);
+        Desks.add(desk, 1, 'd', 99);
+        checks.due("another entitlement takes none away", desk.unitsForAll(0), 2);
+        desk.retire(5);
+        checks.due("a retired one needs nothing", desk.unitsForAll(0), 1);
+    }
+
+    private static void leastAndMostUnits() {
+        for (char metric : new char[] {'d', 'u', 'c'}) {
+            Entitled desk = new Entitled();
+            Desks.add(desk, 15, metric, 1);
+            checks.due("no installs by " + metric, desk.unitsForAll(0), 0);
+            for (int i = 0; i < 6; i++) {
+                desk.install(3, 5, 2, 9 - i, 9 - i, 16, 2);
+            }
+            checks.due("six installs by " + metric, desk.unitsForAll(0), metric == 'c' ? 96 : 6);
+            checks.due("units are not asked for", desk.units(0), 1);
+        }
+        Entitled desk = Desks.misfit();
+        checks.due("the one that it fits", desk.unitsForAll(1), 1);
+        desk.retire(0);
+        checks.due("none that it fits any more", desk.unitsForAll(1), 0);
     }
 }
