@@ -19,6 +19,9 @@ public final class Entitled {
     private static final int FIRST_PRICE = 10;
     private static final int HIGHEST_PRICE = 99;
     private static final int NO_ENTITLEMENT = -1;
+    // Six installs of 16 cores at the highest price cost 9504; no cover has fewer installs than 0.
+    private static final int ABOVE_EVERY_COST = 1000000;
+    private static final int BELOW_EVERY_COUNT = -1;
     private static final char BY_DEVICE = 'd';
     private static final char BY_USER = 'u';
     private static final char BY_CORE = 'c';
@@ -226,7 +229,7 @@ public final class Entitled {
         if (thereCount > MOST_TRIED) {
             throw new UnsupportedOperationException("too many installs to try all assignments");
         }
-        clearSearch(-1);
+        clearSearch(BELOW_EVERY_COUNT);
         tryCovers(this, 0);
         return bestValue;
     }
@@ -270,7 +273,7 @@ public final class Entitled {
             throw new UnsupportedOperationException("too many installs to try all assignments");
         }
         checkAllCanBeCovered();
-        clearSearch(Integer.MAX_VALUE);
+        clearSearch(ABOVE_EVERY_COST);
         tryPurchases(this, 0);
         return bestValue;
     }
@@ -372,7 +375,7 @@ public final class Entitled {
     // ---- searching ----
 
     private int findCover() {
-        clearSearch(-1);
+        clearSearch(BELOW_EVERY_COUNT);
         coverableFrom[MOST_MADE] = 0;
         for (int i = MOST_MADE - 1; i >= 0; i--) {
             coverableFrom[i] = coverableFrom[i + 1] + (countFitting(installs[i]) > 0 ? 1 : 0);
@@ -382,7 +385,7 @@ public final class Entitled {
     }
 
     private int findPurchase() {
-        clearSearch(Integer.MAX_VALUE);
+        clearSearch(ABOVE_EVERY_COST);
         searchPurchase(this, 0, 0);
         return bestValue;
     }
